@@ -970,11 +970,12 @@ public final class WallpaperGroups {
 
         /** Burnside: there are as many classes as an element fixes colorings on the average. */
         long countColoringClasses(int colors) {
+            int elements = group.size();
             long fixed = 0;
-            for (int i = 0; i < group.size(); i++) {
+            for (int i = 0; i < elements; i++) {
                 fixed += power(colors, countCycles(group.elementAt(i)));
             }
-            return group.size() > 0 ? fixed / group.size() : 0;
+            return elements > 0 ? fixed / elements : 0;
         }
 
         private int countCycles(int code) {
