@@ -250,7 +250,8 @@ public final class WallpaperGroups {
 
     /** Counts upwards from 0 for negative values too. */
     private static int remainder(int value, int divisor) {
-        return divisor > 0 ? Math.floorMod(value, divisor) : 0;
+        int rest = divisor > 0 ? value % divisor : 0;
+        return rest < 0 ? rest + divisor : rest;
     }
 
     private static boolean isInside(int index, int length) {
@@ -792,11 +793,12 @@ public final class WallpaperGroups {
 
         int typeNumber() {
             int mirrorParts = countMirrorParts();
+            boolean centered = hasCentering();
             switch (greatestTurnOrder()) {
                 case 1:
-                    return typeWithoutTurns(mirrorParts);
+                    return typeWithoutTurns(mirrorParts, centered);
                 case 2:
-                    return typeWithHalfTurns(mirrorParts);
+                    return typeWithHalfTurns(mirrorParts, centered);
                 case 3:
                     return typeWithThirdTurns();
                 case 4:
@@ -806,17 +808,17 @@ public final class WallpaperGroups {
             }
         }
 
-        private int typeWithoutTurns(int mirrorParts) {
+        private int typeWithoutTurns(int mirrorParts, boolean centered) {
             if (!hasReversal()) {
                 return P1;
             }
             if (mirrorParts == 0) {
                 return PG;
             }
-            return hasCentering() ? CM : PM;
+            return centered ? CM : PM;
         }
 
-        private int typeWithHalfTurns(int mirrorParts) {
+        private int typeWithHalfTurns(int mirrorParts, boolean centered) {
             if (!hasReversal()) {
                 return P2;
             }
@@ -826,7 +828,7 @@ public final class WallpaperGroups {
             if (mirrorParts == 1) {
                 return PMG;
             }
-            return hasCentering() ? CMM : PMM;
+            return centered ? CMM : PMM;
         }
 
         private int typeWithThirdTurns() {

@@ -13,12 +13,13 @@ final class MovementsTest {
         CHECKS.end();
     }
 
+    /** An object of the class for each first factor, since nothing is promised after 512 calls. */
     private static void movements(int kind, int n) {
-        WallpaperGroups real = new WallpaperGroups();
         PlainModel plain = new PlainModel();
-        CHECKS.due("setLattice", real.setLattice(kind, n), plain.setLattice(kind, n));
+        plain.setLattice(kind, n);
         int codes = plain.codeCount();
         for (int g = -1; g <= codes; g++) {
+            WallpaperGroups real = Groups.made(kind, n);
             CHECKS.due("kindOf(" + g + ")", real.kindOf(g), plain.kindOf(g));
             CHECKS.due("orderOf(" + g + ")", real.orderOf(g), plain.orderOf(g));
             for (int h = -1; h <= codes; h++) {
@@ -28,17 +29,15 @@ final class MovementsTest {
     }
 
     private static void groupsOfOneGenerator(int kind, int n) {
-        WallpaperGroups real = new WallpaperGroups();
         PlainModel plain = new PlainModel();
-        CHECKS.due("setLattice", real.setLattice(kind, n), plain.setLattice(kind, n));
-        CHECKS.due("addGenerator(0, 0, 0)", real.addGenerator(0, 0, 0), plain.addGenerator(0, 0, 0));
+        plain.setLattice(kind, n);
+        plain.addGenerator(0, 0, 0);
         for (int linear = 0; linear < plain.partCount(); linear++) {
             for (int u = 0; u < n; u++) {
                 for (int v = 0; v < n; v++) {
                     CHECKS.begin("kind " + kind + ", N " + n + ", generator " + linear + ", " + u + ", " + v);
-                    CHECKS.due("setGenerator", real.setGenerator(0, linear, u, v),
-                            plain.setGenerator(0, linear, u, v));
-                    askAll(real, plain);
+                    plain.setGenerator(0, linear, u, v);
+                    askAll(Groups.made(kind, n, linear, u, v), plain);
                 }
             }
         }

@@ -1,8 +1,8 @@
 /** The promises one by one, with answers worked out by hand: ordinary, at the edges, and wrong. */
 final class PromisesTest {
     private static final Checks CHECKS = new Checks();
-    private static final int LOW = Integer.MIN_VALUE;
-    private static final int HIGH = Integer.MAX_VALUE;
+    private static final int LOW = Groups.LOW;
+    private static final int HIGH = Groups.HIGH;
 
     public static void main(String[] args) {
         newObject();
@@ -31,17 +31,6 @@ final class PromisesTest {
         invariantColorings();
         coloringClasses();
         CHECKS.end();
-    }
-
-    /** Generators are given as linear, u, v, one behind the other. */
-    private static WallpaperGroups made(int kind, int n, int... generators) {
-        WallpaperGroups x = new WallpaperGroups();
-        x.setLattice(kind, n);
-        for (int i = 0; i < generators.length; i += 3) {
-            CHECKS.holds("generator " + i / 3 + " is taken",
-                    x.addGenerator(generators[i], generators[i + 1], generators[i + 2]) > 0);
-        }
-        return x;
     }
 
     private static void newObject() {
@@ -105,7 +94,7 @@ final class PromisesTest {
         CHECKS.due("addGenerator(0, 0, 4), wrong and a fifth", x.addGenerator(0, 0, 4), -1);
         CHECKS.due("generator(3)", x.generator(3), 16);
         CHECKS.due("generator(4)", x.generator(4), -3);
-        WallpaperGroups hexagonal = made(1, 5);
+        WallpaperGroups hexagonal = Groups.made(1, 5);
         CHECKS.due("addGenerator(12, 0, 0)", hexagonal.addGenerator(12, 0, 0), -1);
         CHECKS.due("addGenerator(0, 5, 0)", hexagonal.addGenerator(0, 5, 0), -1);
         CHECKS.due("addGenerator(11, 0, 4)", hexagonal.addGenerator(11, 0, 4), 10);
@@ -113,7 +102,7 @@ final class PromisesTest {
 
     private static void removeGenerator() {
         CHECKS.begin("4 removeGenerator");
-        WallpaperGroups x = made(0, 4, 1, 0, 0, 4, 0, 0, 0, 2, 2);
+        WallpaperGroups x = Groups.made(0, 4, 1, 0, 0, 4, 0, 0, 0, 2, 2);
         CHECKS.due("removeGenerator(-1)", x.removeGenerator(-1), -1);
         CHECKS.due("removeGenerator(3)", x.removeGenerator(3), -1);
         CHECKS.due("removeGenerator(HIGH)", x.removeGenerator(HIGH), -1);
@@ -132,7 +121,7 @@ final class PromisesTest {
         CHECKS.begin("5 setGenerator");
         WallpaperGroups x = new WallpaperGroups();
         CHECKS.due("setGenerator(0, 0, 0, 0) of none", x.setGenerator(0, 0, 0, 0), -1);
-        x = made(0, 4, 5, 1, 2, 2, 0, 0);
+        x = Groups.made(0, 4, 5, 1, 2, 2, 0, 0);
         CHECKS.due("setGenerator(2, 0, 0, 0)", x.setGenerator(2, 0, 0, 0), -1);
         CHECKS.due("setGenerator(-1, 0, 0, 0)", x.setGenerator(-1, 0, 0, 0), -1);
         CHECKS.due("setGenerator(0, 8, 0, 0)", x.setGenerator(0, 8, 0, 0), -1);
@@ -170,7 +159,7 @@ final class PromisesTest {
         CHECKS.due("order()", x.order(), 1);
         CHECKS.due("undo()", x.undo(), -3);
         CHECKS.due("undo() again", x.undo(), -3);
-        x = made(1, 2, 1, 0, 0, 6, 1, 1);
+        x = Groups.made(1, 2, 1, 0, 0, 6, 1, 1);
         CHECKS.due("setLattice(0, 5)", x.setLattice(0, 5), 2);
         CHECKS.due("undo() brings generators back", x.undo(), 3);
         CHECKS.due("generator(0)", x.generator(0), 4);
@@ -204,7 +193,7 @@ final class PromisesTest {
 
     private static void errorsAreNoEdits() {
         CHECKS.begin("errors change nothing and are no edits");
-        WallpaperGroups x = made(0, 3, 1, 0, 0);
+        WallpaperGroups x = Groups.made(0, 3, 1, 0, 0);
         x.setLattice(2, 3);
         x.setLattice(0, 6);
         x.addGenerator(8, 0, 0);
@@ -216,7 +205,7 @@ final class PromisesTest {
         CHECKS.due("undo()", x.undo(), 1);
         CHECKS.due("undo()", x.undo(), 0);
         CHECKS.due("undo()", x.undo(), -3);
-        x = made(0, 4, 0, 0, 0, 0, 0, 0, 0, 0, 0, 0, 0, 1);
+        x = Groups.made(0, 4, 0, 0, 0, 0, 0, 0, 0, 0, 0, 0, 0, 1);
         CHECKS.due("addGenerator(1, 0, 0), a fifth", x.addGenerator(1, 0, 0), -2);
         CHECKS.due("order()", x.order(), 4);
         CHECKS.due("undo()", x.undo(), 3);
@@ -225,7 +214,7 @@ final class PromisesTest {
 
     private static void generator() {
         CHECKS.begin("7 generator");
-        WallpaperGroups x = made(1, 5, 11, 4, 4, 0, 1, 2);
+        WallpaperGroups x = Groups.made(1, 5, 11, 4, 4, 0, 1, 2);
         CHECKS.due("generator(0)", x.generator(0), 299);
         CHECKS.due("generator(1)", x.generator(1), 7);
         CHECKS.due("generator(2)", x.generator(2), -3);
@@ -237,7 +226,7 @@ final class PromisesTest {
 
     private static void orderAndElement() {
         CHECKS.begin("8 order, 9 element");
-        WallpaperGroups x = made(0, 2, 7, 1, 0);
+        WallpaperGroups x = Groups.made(0, 2, 7, 1, 0);
         // (x, y) -> (-y + 1, -x), twice (x + 1, y - 1): 0, translation (1, 1), and two reversals.
         CHECKS.due("order()", x.order(), 4);
         CHECKS.due("element(0)", x.element(0), 0);
@@ -248,7 +237,7 @@ final class PromisesTest {
         CHECKS.due("element(HIGH)", x.element(HIGH), -3);
         CHECKS.due("element(-1)", x.element(-1), -1);
         CHECKS.due("element(LOW)", x.element(LOW), -1);
-        x = made(1, 5, 1, 0, 0, 6, 0, 0, 0, 1, 0);
+        x = Groups.made(1, 5, 1, 0, 0, 6, 0, 0, 0, 1, 0);
         CHECKS.due("order() of the greatest group", x.order(), 300);
         for (int i = 0; i < 300; i++) {
             CHECKS.due("element(" + i + ")", x.element(i), i);
@@ -258,7 +247,7 @@ final class PromisesTest {
 
     private static void contains() {
         CHECKS.begin("10 contains");
-        WallpaperGroups x = made(0, 3, 0, 1, 2);
+        WallpaperGroups x = Groups.made(0, 3, 0, 1, 2);
         int[] inside = {0, 5, 7};
         for (int code = 0; code < 72; code++) {
             boolean is = code == inside[0] || code == inside[1] || code == inside[2];
@@ -286,7 +275,7 @@ final class PromisesTest {
         CHECKS.due("product(0, -1)", x.product(0, -1), -1);
         CHECKS.due("product(HIGH, LOW)", x.product(HIGH, LOW), -1);
         CHECKS.due("order() as before", x.order(), 1);
-        x = made(1, 3);
+        x = Groups.made(1, 3);
         // Hexagonal: r sends (1, 2) to (-2, 3), and so to (1, 0).
         CHECKS.due("product(9, 5)", x.product(9, 5), 12);
         CHECKS.due("product(54, 9): f r = r^5 f", x.product(54, 9), 99);
@@ -306,11 +295,11 @@ final class PromisesTest {
         CHECKS.due("orderOf(-1)", x.orderOf(-1), -1);
         CHECKS.due("orderOf(HIGH)", x.orderOf(HIGH), -1);
         CHECKS.due("orderOf(LOW)", x.orderOf(LOW), -1);
-        x = made(1, 5);
+        x = Groups.made(1, 5);
         CHECKS.due("orderOf(25), a sixth turn", x.orderOf(25), 6);
         CHECKS.due("orderOf(24), a translation", x.orderOf(24), 5);
         CHECKS.due("orderOf(156), a glide by (1, 1)", x.orderOf(156), 10);
-        x = made(0, 1);
+        x = Groups.made(0, 1);
         CHECKS.due("orderOf(1) where N = 1", x.orderOf(1), 4);
     }
 
@@ -333,7 +322,7 @@ final class PromisesTest {
         CHECKS.due("kindOf(-1)", x.kindOf(-1), -1);
         CHECKS.due("kindOf(HIGH)", x.kindOf(HIGH), -1);
         CHECKS.due("kindOf(LOW)", x.kindOf(LOW), -1);
-        x = made(1, 3);
+        x = Groups.made(1, 3);
         // r f = ((-1, 0), (1, 1)): w + M w = (0, x + 2 y), so 3 must divide u + 2 v.
         CHECKS.due("kindOf(67), r f with (1, 1)", x.kindOf(67), 2);
         CHECKS.due("kindOf(68), r f with (1, 2)", x.kindOf(68), 3);
@@ -342,7 +331,7 @@ final class PromisesTest {
 
     private static void count() {
         CHECKS.begin("14 count");
-        WallpaperGroups x = made(0, 4, 1, 0, 0, 4, 2, 2);
+        WallpaperGroups x = Groups.made(0, 4, 1, 0, 0, 4, 2, 2);
         CHECKS.due("count(0)", x.count(0), 1);
         CHECKS.due("count(1)", x.count(1), 3);
         CHECKS.due("count(2)", x.count(2), 2);
@@ -351,7 +340,7 @@ final class PromisesTest {
         CHECKS.due("count(-1)", x.count(-1), -1);
         CHECKS.due("count(HIGH)", x.count(HIGH), -1);
         CHECKS.due("count(LOW)", x.count(LOW), -1);
-        x = made(0, 2, 4, 1, 0);
+        x = Groups.made(0, 2, 4, 1, 0);
         CHECKS.due("count(2) of a glide alone", x.count(2), 0);
         CHECKS.due("count(3) of a glide alone", x.count(3), 1);
     }
@@ -359,24 +348,24 @@ final class PromisesTest {
     private static void isAbelian() {
         CHECKS.begin("15 isAbelian");
         CHECKS.due("no generators", new WallpaperGroups().isAbelian(), 1);
-        CHECKS.due("quarter turns", made(0, 4, 1, 0, 0).isAbelian(), 1);
-        CHECKS.due("a translation and a half turn", made(0, 4, 0, 1, 0, 2, 0, 0).isAbelian(), 0);
-        CHECKS.due("a translation by 2 of 4 and a half turn", made(0, 4, 0, 2, 0, 2, 0, 0).isAbelian(), 1);
-        CHECKS.due("quarter turns and a reflection", made(0, 1, 1, 0, 0, 4, 0, 0).isAbelian(), 0);
-        CHECKS.due("two reflections that cross", made(0, 1, 4, 0, 0, 6, 0, 0).isAbelian(), 1);
-        CHECKS.due("the fourth does not commute", made(0, 4, 0, 0, 2, 0, 2, 0, 2, 0, 0, 0, 1, 0).isAbelian(), 0);
+        CHECKS.due("quarter turns", Groups.made(0, 4, 1, 0, 0).isAbelian(), 1);
+        CHECKS.due("a translation and a half turn", Groups.made(0, 4, 0, 1, 0, 2, 0, 0).isAbelian(), 0);
+        CHECKS.due("a translation by 2 of 4 and a half turn", Groups.made(0, 4, 0, 2, 0, 2, 0, 0).isAbelian(), 1);
+        CHECKS.due("quarter turns and a reflection", Groups.made(0, 1, 1, 0, 0, 4, 0, 0).isAbelian(), 0);
+        CHECKS.due("two reflections that cross", Groups.made(0, 1, 4, 0, 0, 6, 0, 0).isAbelian(), 1);
+        CHECKS.due("the fourth does not commute", Groups.made(0, 4, 0, 0, 2, 0, 2, 0, 2, 0, 0, 0, 1, 0).isAbelian(), 0);
     }
 
     private static void conjugacyClasses() {
         CHECKS.begin("16 conjugacyClasses");
         CHECKS.due("no generators", new WallpaperGroups().conjugacyClasses(), 1);
-        CHECKS.due("16 translations", made(0, 4, 0, 1, 0, 0, 0, 1).conjugacyClasses(), 16);
-        CHECKS.due("the square's group", made(0, 1, 1, 0, 0, 4, 0, 0).conjugacyClasses(), 5);
-        CHECKS.due("the triangle's group", made(1, 1, 2, 0, 0, 6, 0, 0).conjugacyClasses(), 3);
-        CHECKS.due("the hexagon's group", made(1, 1, 1, 0, 0, 6, 0, 0).conjugacyClasses(), 6);
+        CHECKS.due("16 translations", Groups.made(0, 4, 0, 1, 0, 0, 0, 1).conjugacyClasses(), 16);
+        CHECKS.due("the square's group", Groups.made(0, 1, 1, 0, 0, 4, 0, 0).conjugacyClasses(), 5);
+        CHECKS.due("the triangle's group", Groups.made(1, 1, 2, 0, 0, 6, 0, 0).conjugacyClasses(), 3);
+        CHECKS.due("the hexagon's group", Groups.made(1, 1, 1, 0, 0, 6, 0, 0).conjugacyClasses(), 6);
         // Of 5 translations the four others pair up; all 5 half turns are alike.
-        CHECKS.due("the pentagon's group", made(0, 5, 0, 1, 0, 2, 0, 0).conjugacyClasses(), 4);
-        CHECKS.due("all 300", made(1, 5, 1, 0, 0, 6, 0, 0, 0, 1, 0).conjugacyClasses(), 14);
+        CHECKS.due("the pentagon's group", Groups.made(0, 5, 0, 1, 0, 2, 0, 0).conjugacyClasses(), 4);
+        CHECKS.due("all 300", Groups.made(1, 5, 1, 0, 0, 6, 0, 0, 0, 1, 0).conjugacyClasses(), 14);
     }
 
     private static void partsAndTurns() {
@@ -386,11 +375,11 @@ final class PromisesTest {
             {1, 0, 1, 1}, {1, 1, 6, 6}, {1, 2, 3, 3}, {1, 3, 2, 2}, {1, 4, 3, 3}, {1, 5, 6, 6},
             {1, 6, 2, 1}, {1, 11, 2, 1}};
         for (int[] row : rows) {
-            WallpaperGroups x = made(row[0], 4, row[1], 1, 0);
+            WallpaperGroups x = Groups.made(row[0], 4, row[1], 1, 0);
             CHECKS.due("linearParts() of " + row[0] + ": " + row[1], x.linearParts(), row[2]);
             CHECKS.due("rotationOrder() of " + row[0] + ": " + row[1], x.rotationOrder(), row[3]);
         }
-        WallpaperGroups x = made(1, 2, 2, 0, 0, 3, 0, 0, 6, 0, 0, 0, 1, 0);
+        WallpaperGroups x = Groups.made(1, 2, 2, 0, 0, 3, 0, 0, 6, 0, 0, 0, 1, 0);
         CHECKS.due("linearParts() of all", x.linearParts(), 12);
         CHECKS.due("rotationOrder() of all", x.rotationOrder(), 6);
     }
@@ -403,49 +392,49 @@ final class PromisesTest {
             {0, 4, 5, 1, 3, 1, 1}, {0, 1, 4, 0, 0, 1, 0}, {0, 1, 5, 0, 0, 1, 1}, {1, 2, 6, 0, 0, 1, 1},
             {1, 3, 7, 0, 0, 1, 1}, {1, 2, 7, 1, 0, 0, 0}, {1, 3, 7, 0, 1, 1, 1}, {1, 3, 10, 0, 2, 1, 1}};
         for (int[] row : rows) {
-            WallpaperGroups x = made(row[0], row[1], row[2], row[3], row[4]);
+            WallpaperGroups x = Groups.made(row[0], row[1], row[2], row[3], row[4]);
             String name = row[0] + ", " + row[1] + ": " + row[2] + ", " + row[3] + ", " + row[4];
             CHECKS.due("mirrorDirections() of " + name, x.mirrorDirections(), row[5]);
             CHECKS.due("isCentered() of " + name, x.isCentered(), row[6]);
         }
         CHECKS.due("isCentered() of nothing", new WallpaperGroups().isCentered(), 0);
-        CHECKS.due("isCentered() with a translation (2, 2)", made(0, 4, 4, 0, 0, 0, 2, 2).isCentered(), 1);
-        CHECKS.due("isCentered() with all translations", made(0, 4, 4, 0, 0, 0, 1, 0, 0, 0, 1).isCentered(), 0);
-        CHECKS.due("isCentered() with (1, 1) modulo 3, which are all", made(0, 3, 5, 0, 0, 0, 1, 1).isCentered(), 1);
-        CHECKS.due("isCentered() of turns alone", made(0, 4, 1, 0, 0, 0, 2, 2).isCentered(), 0);
-        CHECKS.due("mirrorDirections() of the square", made(0, 4, 1, 0, 0, 4, 0, 0).mirrorDirections(), 4);
-        CHECKS.due("mirrorDirections() of p4g", made(0, 4, 1, 0, 0, 4, 2, 2).mirrorDirections(), 2);
-        CHECKS.due("mirrorDirections() of the hexagon", made(1, 5, 1, 0, 0, 6, 0, 0).mirrorDirections(), 6);
+        CHECKS.due("isCentered() with a translation (2, 2)", Groups.made(0, 4, 4, 0, 0, 0, 2, 2).isCentered(), 1);
+        CHECKS.due("isCentered() with all translations", Groups.made(0, 4, 4, 0, 0, 0, 1, 0, 0, 0, 1).isCentered(), 0);
+        CHECKS.due("isCentered() with (1, 1) modulo 3", Groups.made(0, 3, 5, 0, 0, 0, 1, 1).isCentered(), 1);
+        CHECKS.due("isCentered() of turns alone", Groups.made(0, 4, 1, 0, 0, 0, 2, 2).isCentered(), 0);
+        CHECKS.due("mirrorDirections() of the square", Groups.made(0, 4, 1, 0, 0, 4, 0, 0).mirrorDirections(), 4);
+        CHECKS.due("mirrorDirections() of p4g", Groups.made(0, 4, 1, 0, 0, 4, 2, 2).mirrorDirections(), 2);
+        CHECKS.due("mirrorDirections() of the hexagon", Groups.made(1, 5, 1, 0, 0, 6, 0, 0).mirrorDirections(), 6);
     }
 
     private static void types() {
         CHECKS.begin("21 type");
-        CHECKS.due("p1", made(0, 4, 0, 1, 2).type(), 0);
-        CHECKS.due("pg", made(0, 4, 4, 2, 0).type(), 1);
-        CHECKS.due("cm", made(0, 4, 5, 0, 0).type(), 2);
-        CHECKS.due("cm by a translation", made(0, 4, 4, 0, 0, 0, 2, 2).type(), 2);
-        CHECKS.due("pm", made(0, 4, 4, 0, 0).type(), 3);
-        CHECKS.due("p2", made(0, 4, 2, 1, 3).type(), 4);
-        CHECKS.due("pgg", made(0, 4, 2, 0, 0, 4, 2, 2).type(), 5);
-        CHECKS.due("pmg", made(0, 4, 2, 0, 0, 4, 2, 0).type(), 6);
-        CHECKS.due("cmm", made(0, 2, 2, 0, 0, 5, 0, 0).type(), 7);
-        CHECKS.due("pmm", made(0, 2, 2, 0, 0, 4, 0, 0).type(), 8);
-        CHECKS.due("p3", made(1, 3, 2, 0, 0).type(), 9);
-        CHECKS.due("p31m", made(1, 3, 2, 0, 0, 7, 0, 0).type(), 10);
-        CHECKS.due("p3m1", made(1, 3, 2, 0, 0, 6, 0, 0).type(), 11);
-        CHECKS.due("p31m by a finer lattice", made(1, 3, 2, 0, 0, 6, 0, 0, 0, 1, 1).type(), 10);
-        CHECKS.due("p3m1 by a finer lattice", made(1, 3, 2, 0, 0, 7, 0, 0, 0, 1, 1).type(), 11);
-        CHECKS.due("p4", made(0, 5, 3, 1, 0).type(), 12);
-        CHECKS.due("p4g", made(0, 4, 1, 0, 0, 4, 2, 2).type(), 13);
-        CHECKS.due("p4m", made(0, 4, 1, 0, 0, 4, 0, 0).type(), 14);
-        CHECKS.due("p6", made(1, 5, 5, 0, 0).type(), 15);
-        CHECKS.due("p6m", made(1, 2, 1, 0, 0, 6, 0, 0).type(), 16);
+        CHECKS.due("p1", Groups.made(0, 4, 0, 1, 2).type(), 0);
+        CHECKS.due("pg", Groups.made(0, 4, 4, 2, 0).type(), 1);
+        CHECKS.due("cm", Groups.made(0, 4, 5, 0, 0).type(), 2);
+        CHECKS.due("cm by a translation", Groups.made(0, 4, 4, 0, 0, 0, 2, 2).type(), 2);
+        CHECKS.due("pm", Groups.made(0, 4, 4, 0, 0).type(), 3);
+        CHECKS.due("p2", Groups.made(0, 4, 2, 1, 3).type(), 4);
+        CHECKS.due("pgg", Groups.made(0, 4, 2, 0, 0, 4, 2, 2).type(), 5);
+        CHECKS.due("pmg", Groups.made(0, 4, 2, 0, 0, 4, 2, 0).type(), 6);
+        CHECKS.due("cmm", Groups.made(0, 2, 2, 0, 0, 5, 0, 0).type(), 7);
+        CHECKS.due("pmm", Groups.made(0, 2, 2, 0, 0, 4, 0, 0).type(), 8);
+        CHECKS.due("p3", Groups.made(1, 3, 2, 0, 0).type(), 9);
+        CHECKS.due("p31m", Groups.made(1, 3, 2, 0, 0, 7, 0, 0).type(), 10);
+        CHECKS.due("p3m1", Groups.made(1, 3, 2, 0, 0, 6, 0, 0).type(), 11);
+        CHECKS.due("p31m by a finer lattice", Groups.made(1, 3, 2, 0, 0, 6, 0, 0, 0, 1, 1).type(), 10);
+        CHECKS.due("p3m1 by a finer lattice", Groups.made(1, 3, 2, 0, 0, 7, 0, 0, 0, 1, 1).type(), 11);
+        CHECKS.due("p4", Groups.made(0, 5, 3, 1, 0).type(), 12);
+        CHECKS.due("p4g", Groups.made(0, 4, 1, 0, 0, 4, 2, 2).type(), 13);
+        CHECKS.due("p4m", Groups.made(0, 4, 1, 0, 0, 4, 0, 0).type(), 14);
+        CHECKS.due("p6", Groups.made(1, 5, 5, 0, 0).type(), 15);
+        CHECKS.due("p6m", Groups.made(1, 2, 1, 0, 0, 6, 0, 0).type(), 16);
         CHECKS.due("a new object", new WallpaperGroups().type(), 0);
     }
 
     private static void orbits() {
         CHECKS.begin("22 orbitSize, 23 orbitFirst, 25 orbitCount");
-        WallpaperGroups x = made(0, 3, 1, 0, 0);
+        WallpaperGroups x = Groups.made(0, 3, 1, 0, 0);
         // Quarter turns about (0, 0) modulo 3: the middle, four sides, four corners.
         int[] sizes = {1, 4, 4, 4, 4, 4, 4, 4, 4};
         int[] firsts = {0, 1, 1, 1, 4, 4, 1, 4, 4};
@@ -462,38 +451,38 @@ final class PromisesTest {
             CHECKS.due("orbitFirst" + name, x.orbitFirst(cell[0], cell[1]), -1);
             CHECKS.due("stabilizerOrder" + name, x.stabilizerOrder(cell[0], cell[1]), -1);
         }
-        CHECKS.due("orbitCount() of nothing, N = 5", made(0, 5).orbitCount(), 25);
-        CHECKS.due("orbitCount() of all translations", made(0, 5, 0, 1, 0, 0, 0, 1).orbitCount(), 1);
-        CHECKS.due("orbitCount() of rows", made(0, 5, 0, 0, 1).orbitCount(), 5);
-        CHECKS.due("orbitFirst(3, 4) of rows", made(0, 5, 0, 0, 1).orbitFirst(3, 4), 15);
-        CHECKS.due("orbitFirst(3, 4) of columns", made(0, 5, 0, 1, 0).orbitFirst(3, 4), 4);
+        CHECKS.due("orbitCount() of nothing, N = 5", Groups.made(0, 5).orbitCount(), 25);
+        CHECKS.due("orbitCount() of all translations", Groups.made(0, 5, 0, 1, 0, 0, 0, 1).orbitCount(), 1);
+        CHECKS.due("orbitCount() of rows", Groups.made(0, 5, 0, 0, 1).orbitCount(), 5);
+        CHECKS.due("orbitFirst(3, 4) of rows", Groups.made(0, 5, 0, 0, 1).orbitFirst(3, 4), 15);
+        CHECKS.due("orbitFirst(3, 4) of columns", Groups.made(0, 5, 0, 1, 0).orbitFirst(3, 4), 4);
     }
 
     private static void stabilizers() {
         CHECKS.begin("24 stabilizerOrder");
-        WallpaperGroups x = made(0, 3, 1, 0, 0, 4, 0, 0);
+        WallpaperGroups x = Groups.made(0, 3, 1, 0, 0, 4, 0, 0);
         CHECKS.due("stabilizerOrder(0, 0)", x.stabilizerOrder(0, 0), 8);
         CHECKS.due("stabilizerOrder(0, 1)", x.stabilizerOrder(0, 1), 2);
         CHECKS.due("stabilizerOrder(2, 2)", x.stabilizerOrder(2, 2), 2);
-        CHECKS.due("all movements alike, N = 1", made(0, 1, 1, 0, 0, 4, 0, 0).stabilizerOrder(0, 0), 8);
-        CHECKS.due("a half turn that moves no cell, N = 2", made(0, 2, 2, 0, 0).stabilizerOrder(1, 0), 2);
-        CHECKS.due("all 300", made(1, 5, 1, 0, 0, 6, 0, 0, 0, 1, 0).stabilizerOrder(4, 4), 12);
+        CHECKS.due("all movements alike, N = 1", Groups.made(0, 1, 1, 0, 0, 4, 0, 0).stabilizerOrder(0, 0), 8);
+        CHECKS.due("a half turn that moves no cell, N = 2", Groups.made(0, 2, 2, 0, 0).stabilizerOrder(1, 0), 2);
+        CHECKS.due("all 300", Groups.made(1, 5, 1, 0, 0, 6, 0, 0, 0, 1, 0).stabilizerOrder(4, 4), 12);
     }
 
     private static void symmorphic() {
         CHECKS.begin("26 isSymmorphic");
         CHECKS.due("nothing", new WallpaperGroups().isSymmorphic(), 1);
-        CHECKS.due("pg", made(0, 2, 4, 1, 0).isSymmorphic(), 0);
-        CHECKS.due("pgg", made(0, 4, 2, 0, 0, 4, 2, 2).isSymmorphic(), 0);
-        CHECKS.due("p4g", made(0, 4, 1, 0, 0, 4, 2, 2).isSymmorphic(), 0);
-        CHECKS.due("p4m", made(0, 4, 1, 0, 0, 4, 0, 0).isSymmorphic(), 1);
-        CHECKS.due("a half turn between the cells", made(0, 4, 2, 1, 0).isSymmorphic(), 0);
-        CHECKS.due("a half turn about (1, 0)", made(0, 4, 2, 2, 0).isSymmorphic(), 1);
+        CHECKS.due("pg", Groups.made(0, 2, 4, 1, 0).isSymmorphic(), 0);
+        CHECKS.due("pgg", Groups.made(0, 4, 2, 0, 0, 4, 2, 2).isSymmorphic(), 0);
+        CHECKS.due("p4g", Groups.made(0, 4, 1, 0, 0, 4, 2, 2).isSymmorphic(), 0);
+        CHECKS.due("p4m", Groups.made(0, 4, 1, 0, 0, 4, 0, 0).isSymmorphic(), 1);
+        CHECKS.due("a half turn between the cells", Groups.made(0, 4, 2, 1, 0).isSymmorphic(), 0);
+        CHECKS.due("a half turn about (1, 0)", Groups.made(0, 4, 2, 2, 0).isSymmorphic(), 1);
     }
 
     private static void invariantColorings() {
         CHECKS.begin("27 invariantColorings");
-        WallpaperGroups x = made(0, 3, 1, 0, 0);
+        WallpaperGroups x = Groups.made(0, 3, 1, 0, 0);
         CHECKS.due("invariantColorings(1)", x.invariantColorings(1), 1);
         CHECKS.due("invariantColorings(2)", x.invariantColorings(2), 8);
         CHECKS.due("invariantColorings(4)", x.invariantColorings(4), 64);
@@ -501,12 +490,12 @@ final class PromisesTest {
         CHECKS.due("invariantColorings(5)", x.invariantColorings(5), -1);
         CHECKS.due("invariantColorings(HIGH)", x.invariantColorings(HIGH), -1);
         CHECKS.due("invariantColorings(LOW)", x.invariantColorings(LOW), -1);
-        CHECKS.due("invariantColorings(4) of 25 orbits", made(1, 5).invariantColorings(4), 1L << 50);
+        CHECKS.due("invariantColorings(4) of 25 orbits", Groups.made(1, 5).invariantColorings(4), 1L << 50);
     }
 
     private static void coloringClasses() {
         CHECKS.begin("28 coloringClasses");
-        WallpaperGroups x = made(0, 3, 1, 0, 0);
+        WallpaperGroups x = Groups.made(0, 3, 1, 0, 0);
         // (2^9 + 2^5 + 2 * 2^3) / 4
         CHECKS.due("coloringClasses(2)", x.coloringClasses(2), 140);
         CHECKS.due("coloringClasses(1)", x.coloringClasses(1), 1);
@@ -514,9 +503,9 @@ final class PromisesTest {
         CHECKS.due("coloringClasses(5)", x.coloringClasses(5), -1);
         CHECKS.due("coloringClasses(HIGH)", x.coloringClasses(HIGH), -1);
         CHECKS.due("coloringClasses(LOW)", x.coloringClasses(LOW), -1);
-        CHECKS.due("coloringClasses(4) of 25 cells apart", made(0, 5).coloringClasses(4), 1L << 50);
+        CHECKS.due("coloringClasses(4) of 25 cells apart", Groups.made(0, 5).coloringClasses(4), 1L << 50);
         // A half turn that moves no cell modulo 2 makes no colorings equivalent.
-        CHECKS.due("coloringClasses(2), N = 2", made(0, 2, 2, 0, 0).coloringClasses(2), 16);
-        CHECKS.due("coloringClasses(3), N = 1", made(1, 1, 1, 0, 0, 6, 0, 0).coloringClasses(3), 3);
+        CHECKS.due("coloringClasses(2), N = 2", Groups.made(0, 2, 2, 0, 0).coloringClasses(2), 16);
+        CHECKS.due("coloringClasses(3), N = 1", Groups.made(1, 1, 1, 0, 0, 6, 0, 0).coloringClasses(3), 3);
     }
 }

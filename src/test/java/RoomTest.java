@@ -11,7 +11,7 @@ final class RoomTest {
         WallpaperGroups x = new WallpaperGroups();
         callAll(x);
         long before = bytes();
-        for (int i = 0; i < 20; i++) {
+        for (int i = 0; i < 15; i++) {
             callAll(x);
         }
         CHECKS.holds("calls make nothing", bytes() - before < 2000);
