@@ -17,6 +17,7 @@ final class HistoryTest {
         editsAfterUndo();
         editsAfterAllIsUndone();
         undoOfEachEditAgain();
+        questionsSeeEachEdit();
         questionsSeeWhatIsUndone();
         CHECKS.end();
     }
@@ -246,6 +247,21 @@ final class HistoryTest {
             CHECKS.due("undo()", x.undo(), 2);
             CHECKS.due("order()", x.order(), 4);
         }
+    }
+
+    private static void questionsSeeEachEdit() {
+        CHECKS.begin("2 to 5 every question is answered from what stands after an edit");
+        WallpaperGroups x = Groups.made(0, 4, 1, 0, 0);
+        CHECKS.due("addGenerator(4, 2, 2)", x.addGenerator(4, 2, 2), 8);
+        new Twins(CHECKS, x, Groups.made(0, 4, 1, 0, 0, 4, 2, 2)).answerAlike("one added: ");
+        CHECKS.due("setGenerator(0, 2, 3, 0)", x.setGenerator(0, 2, 3, 0), 16);
+        CHECKS.due("order()", x.order(), 4);
+        CHECKS.due("type(): pgg", x.type(), 5);
+        new Twins(CHECKS, x, Groups.made(0, 4, 2, 3, 0, 4, 2, 2)).answerAlike("one replaced: ");
+        CHECKS.due("removeGenerator(0)", x.removeGenerator(0), 2);
+        new Twins(CHECKS, x, Groups.made(0, 4, 4, 2, 2)).answerAlike("one removed: ");
+        CHECKS.due("setLattice(1, 2)", x.setLattice(1, 2), 4);
+        new Twins(CHECKS, x, Groups.made(1, 2)).answerAlike("all removed: ");
     }
 
     private static void questionsSeeWhatIsUndone() {

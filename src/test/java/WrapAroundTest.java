@@ -9,6 +9,7 @@ final class WrapAroundTest {
         Groups.eachLattice(WrapAroundTest::translatedTranslations);
         Groups.eachLattice(WrapAroundTest::translationsUnderLinearParts);
         Groups.eachLattice(WrapAroundTest::translationOfTheFirstFactor);
+        Groups.eachLattice(WrapAroundTest::powersOfTheTurn);
         Groups.eachLattice(WrapAroundTest::translationOrders);
         Groups.eachLattice(WrapAroundTest::powersOfATranslation);
         Groups.eachLattice(WrapAroundTest::cellsAlongX);
@@ -17,6 +18,7 @@ final class WrapAroundTest {
         Groups.eachLattice(WrapAroundTest::cellsUnderAReversal);
         Groups.eachLattice(WrapAroundTest::cellsUnderTurns);
         Groups.eachLattice(WrapAroundTest::cellsUnderOneMovement);
+        Groups.eachLattice(WrapAroundTest::coloringsUnderOneMovement);
         Groups.eachLattice(WrapAroundTest::wholePeriodsAreLatticeVectors);
         CHECKS.end();
     }
@@ -104,6 +106,23 @@ final class WrapAroundTest {
                     x.product(code + n * n - 1, n * n - 1), code + cell(n, sent[0] + edge, sent[1] + edge));
             CHECKS.due("linear part " + part + " and (N - 1, 0) behind it",
                     x.product(n * edge, code + n * edge), code + cell(n, 2 * edge, 0));
+        }
+    }
+
+    /** Behind the last power of r comes r^0 again, and f r is the last power of r before f. */
+    private static void powersOfTheTurn(int kind, int n) {
+        CHECKS.begin("11 the linear part M(g) M(h) has a number of the lattice's; " + Groups.name(kind, n));
+        WallpaperGroups x = Groups.made(kind, n);
+        int cells = n * n;
+        for (int a = 0; a < Groups.parts(kind); a++) {
+            for (int b = 0; b < Groups.parts(kind); b++) {
+                int product = x.product(a * cells, b * cells) / cells;
+                int[] first = image(kind, b, 2, 7);
+                int[] both = image(kind, a, first[0], first[1]);
+                int[] sent = image(kind, product, 2, 7);
+                CHECKS.due(a + " " + b + " sends x", sent[0], both[0]);
+                CHECKS.due(a + " " + b + " sends y", sent[1], both[1]);
+            }
         }
     }
 
@@ -233,6 +252,36 @@ final class WrapAroundTest {
                 }
             }
         }
+    }
+
+    /** A movement of order 2 ties each coloring to one other, but for the invariant ones. */
+    private static void coloringsUnderOneMovement(int kind, int n) {
+        CHECKS.begin("27, 28 a movement sends a cell to M (x, y) + (u, v) modulo N; " + Groups.name(kind, n));
+        for (int part = 1; part < Groups.parts(kind); part++) {
+            for (int t = 0; t < n * n; t++) {
+                WallpaperGroups x = Groups.made(kind, n, part, t / n, t % n);
+                if (x.order() == 2) {
+                    long all = power(3, n * n);
+                    long stay = power(3, (n * n + cellsThatStay(kind, n, part, t)) / 2);
+                    String name = "(3), linear part " + part + ", (" + t / n + ", " + t % n + ")";
+                    CHECKS.due("invariantColorings" + name, x.invariantColorings(3), stay);
+                    CHECKS.due("coloringClasses" + name, x.coloringClasses(3), (all + stay) / 2);
+                }
+            }
+        }
+    }
+
+    private static int cellsThatStay(int kind, int n, int part, int t) {
+        int stay = 0;
+        for (int c = 0; c < n * n; c++) {
+            int[] sent = image(kind, part, c / n, c % n);
+            stay += cell(n, sent[0] + t / n, sent[1] + t % n) == c ? 1 : 0;
+        }
+        return stay;
+    }
+
+    private static long power(int base, int exponent) {
+        return exponent == 0 ? 1 : base * power(base, exponent - 1);
     }
 
     // ---- the translation lattice
