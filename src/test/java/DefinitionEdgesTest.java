@@ -11,6 +11,7 @@ final class DefinitionEdgesTest {
         ordersOfMovements();
         abelianOrJustNot();
         classesUnderEveryElement();
+        Groups.eachLattice(DefinitionEdgesTest::classesOfPowers);
         greatestRotationOrder();
         centeredOnlyByReflections();
         halvesThatAreNoIntegers();
@@ -152,6 +153,17 @@ final class DefinitionEdgesTest {
         CHECKS.due("N = 2, where all commute", Groups.made(0, 2, 2, 0, 0, 0, 1, 0).conjugacyClasses(), 4);
         // Conjugate under all movements, but not within the group of two translations.
         CHECKS.due("translations by 1 and 3 alone", Groups.made(0, 4, 0, 1, 0).conjugacyClasses(), 4);
+    }
+
+    /** Powers of one movement commute, so each is a class of its own. */
+    private static void classesOfPowers(int kind, int n) {
+        CHECKS.begin("15, 16 one generator; " + Groups.name(kind, n));
+        for (int code = 0; code < Groups.codes(kind, n); code++) {
+            WallpaperGroups x = Groups.made(kind, n, code / (n * n), code / n % n, code % n);
+            CHECKS.due("isAbelian(), powers of " + code, x.isAbelian(), 1);
+            CHECKS.due("order(), powers of " + code, x.order(), x.orderOf(code));
+            CHECKS.due("conjugacyClasses(), powers of " + code, x.conjugacyClasses(), x.orderOf(code));
+        }
     }
 
     // ---- type

@@ -11,6 +11,7 @@ final class HistoryTest {
         addedBehindTheOthers();
         removedFirstMiddleAndLast();
         replacedInItsPlace();
+        removedLeavesNoTrace();
         undoneToTheFirstState();
         fifthEditPushesTheFirstOut();
         undoIsNoEdit();
@@ -153,6 +154,33 @@ final class HistoryTest {
             for (int i = 0; i < 4; i++) {
                 CHECKS.due("generator(" + i + ") again", x.generator(i), i * 4);
             }
+        }
+    }
+
+    private static int[] without(int[] generators, int index) {
+        int[] rest = new int[generators.length - 3];
+        System.arraycopy(generators, 0, rest, 0, 3 * index);
+        System.arraycopy(generators, 3 * index + 3, rest, 3 * index, rest.length - 3 * index);
+        return rest;
+    }
+
+    /** A generator that does not commute with the others would still show in isAbelian and the classes. */
+    private static void removedLeavesNoTrace() {
+        int[][] lists = {
+            {1, 0, 0}, {1, 0, 0, 4, 0, 0}, {1, 0, 0, 4, 0, 0, 0, 1, 2}, {1, 0, 0, 4, 0, 0, 0, 1, 2, 2, 3, 2}};
+        for (int[] list : lists) {
+            CHECKS.begin("2, 4, 6 a generator that is gone leaves no trace, of " + list.length / 3);
+            for (int index = 0; index < list.length / 3; index++) {
+                WallpaperGroups x = Groups.made(0, 5, list);
+                CHECKS.holds("removeGenerator(" + index + ")", x.removeGenerator(index) > 0);
+                new Twins(CHECKS, x, Groups.made(0, 5, without(list, index))).answerAlike(index + " removed: ");
+            }
+            WallpaperGroups x = Groups.made(0, 5, list);
+            CHECKS.holds("undo()", x.undo() >= 0);
+            new Twins(CHECKS, x, Groups.made(0, 5, without(list, list.length / 3 - 1))).answerAlike("undone: ");
+            CHECKS.due("setLattice(0, 5)", x.setLattice(0, 5), 5);
+            CHECKS.due("addGenerator(1, 0, 0)", x.addGenerator(1, 0, 0), 4);
+            new Twins(CHECKS, x, Groups.made(0, 5, 1, 0, 0)).answerAlike("all removed, one added: ");
         }
     }
 
