@@ -845,7 +845,10 @@ public final class WallpaperGroups {
             return mirrorParts < 4 ? P4G : P4M;
         }
 
-        /** As (N, 0) is a translation, the shortest ones have no coordinate beyond N. */
+        /**
+         * As (N, 0) is a translation, the shortest ones have no squared length beyond N * N, and so,
+         * for N up to 5, no coordinate beyond N.
+         */
         private boolean fixesShortestVector() {
             int n = lattice.n;
             int least = leastSquaredLength();
